@@ -428,7 +428,7 @@ public final class PodMarks {
         int many = 0;
         for (int i = 0; i < lists[list].size; i++) {
             offerRings(list, lists[list].marks[i], i);
-            if (covers.canReach(0, 0, h)) {
+            if (covers.canCover(h)) {
                 many++;
             }
         }
@@ -545,7 +545,7 @@ public final class PodMarks {
         }
 
         /** A blind island is an adding one on which none is added. */
-        int extra() {
+        private int extra() {
             return kind == BLIND ? 0 : a;
         }
 
@@ -559,7 +559,7 @@ public final class PodMarks {
             return strays(m, s) || (kind == EITHER_END && strays(reversed(m), s));
         }
 
-        boolean strays(int m, int s) {
+        private boolean strays(int m, int s) {
             return Integer.bitCount(m & ~s) <= t && Integer.bitCount(s & ~m) <= extra();
         }
 
@@ -572,7 +572,7 @@ public final class PodMarks {
         }
 
         /** A pin of one mark alone is either unseen on it or added on the other: t + extra of them can be so. */
-        boolean near(int m, int k) {
+        private boolean near(int m, int k) {
             int far = t + extra();
             return Integer.bitCount(m & ~k) <= far && Integer.bitCount(k & ~m) <= far;
         }
@@ -599,7 +599,7 @@ public final class PodMarks {
             return least;
         }
 
-        static int lesser(int s, int other) {
+        private static int lesser(int s, int other) {
             if (s == NONE || other == NONE) {
                 return Math.max(s, other);
             }
@@ -607,7 +607,7 @@ public final class PodMarks {
         }
 
         /** From the highest place down a pin is set only where the lower places could not make up for its lack. */
-        int leastSeen(int m, int k) {
+        private int leastSeen(int m, int k) {
             if (!near(m, k)) {
                 return NONE;
             }
@@ -622,7 +622,7 @@ public final class PodMarks {
             return s;
         }
 
-        boolean canEnd(int m, int k, int s, int decided) {
+        private boolean canEnd(int m, int k, int s, int decided) {
             int unseenM = t - Integer.bitCount(m & decided & ~s);
             int unseenK = t - Integer.bitCount(k & decided & ~s);
             int addedM = extra() - Integer.bitCount(s & ~m);
@@ -638,7 +638,7 @@ public final class PodMarks {
         }
 
         /** Sights of a mark that has so many pins in common with itself turned, and so many alone. */
-        int sights(int common, int alone) {
+        private int sights(int common, int alone) {
             if (kind == LOSING) {
                 return upTo(n, t);
             }
@@ -647,7 +647,7 @@ public final class PodMarks {
             return kind == EITHER_END ? 2 * oneWay - sightsBothWays(common, alone) : oneWay;
         }
 
-        int sightsBothWays(int common, int alone) {
+        private int sightsBothWays(int common, int alone) {
             int empty = n - common - 2 * alone;
             int sum = 0;
             for (int unseen = 0; unseen <= t; unseen++) {
@@ -687,7 +687,7 @@ public final class PodMarks {
             return sum;
         }
 
-        static int upTo(int of, int many) {
+        private static int upTo(int of, int many) {
             int sum = 0;
             for (int k = 0; k <= many; k++) {
                 sum += choose(of, k);
@@ -695,7 +695,7 @@ public final class PodMarks {
             return sum;
         }
 
-        static int choose(int of, int many) {
+        private static int choose(int of, int many) {
             if (many < 0 || many > of) {
                 return 0;
             }
@@ -712,7 +712,7 @@ public final class PodMarks {
         static final int WORD = 64;
 
         final int[] marks = new int[ROOM];
-        final long[] members = new long[SETS / WORD];
+        private final long[] members = new long[SETS / WORD];
         int size = 0;
 
         boolean holds(int m) {
@@ -761,8 +761,8 @@ public final class PodMarks {
         static final int SURE = 9;
 
         final int[] numbers = new int[MOST_PLACES];
-        final long[] chances = new long[ROOM];
-        int weighed = 0;
+        private final long[] chances = new long[ROOM];
+        private int weighed = 0;
 
         Reading() {
             Arrays.fill(numbers, NONE);
@@ -818,7 +818,7 @@ public final class PodMarks {
             return NONE;
         }
 
-        int ahead(int i) {
+        private int ahead(int i) {
             int many = 0;
             for (int j = 0; j < weighed; j++) {
                 if (chances[j] > chances[i] || (chances[j] == chances[i] && j < i)) {
@@ -835,11 +835,11 @@ public final class PodMarks {
         static final int END = 0, WORD = 1, NUMBER = 2, SIGN = 3;
         static final int NUMBER_FIGURES = 2;
 
-        final int[] bytes = new int[ROOM_FOR_BYTES];
+        private final int[] bytes = new int[ROOM_FOR_BYTES];
         int length = 0;
         int token = END;
         int start = 0;
-        int next = 0;
+        private int next = 0;
 
         boolean take(int n, long packed) {
             if (n < 0 || length + n > ROOM_FOR_BYTES) {
@@ -873,7 +873,7 @@ public final class PodMarks {
             }
         }
 
-        static int kindOf(int b) {
+        private static int kindOf(int b) {
             if (b >= 'a' && b <= 'z') {
                 return WORD;
             }
@@ -909,97 +909,99 @@ public final class PodMarks {
         }
     }
 
-    /** A rule as steps, operands ahead of what joins them, and the fault of the latest text. */
+    /** A rule as steps, tests ahead of what joins them, and the fault of the latest text. */
     private static final class Rule {
         static final int MISPLACED = 1, BAD_NUMBER = 2, TOO_DEEP = 3;
         static final int MOST_OPEN = 4, MOST_LEFT = 98, MOST_DIVISOR = 99;
         static final int PINS = 1, SUM = 2, HAS = 3, RUNS = 4, TURNS = 5, IN = 6, INVERT = 7, BOTH = 8, EITHER = 9;
 
-        final int[] steps = new int[Text.ROOM_FOR_BYTES];
-        final int[] numbers = new int[Text.ROOM_FOR_BYTES];
-        final int[] divisors = new int[Text.ROOM_FOR_BYTES];
-        int length = 0;
+        private final int[] steps = new int[Text.ROOM_FOR_BYTES];
+        private final int[] numbers = new int[Text.ROOM_FOR_BYTES];
+        private final int[] divisors = new int[Text.ROOM_FOR_BYTES];
+        private int length = 0;
         int faultKind = 0;
         int faultAt = NONE;
+
+        // What each open bracket still has to put behind its next test or at its end; the bare text is 0.
+        private final boolean[] inverts = new boolean[MOST_OPEN + 1];
+        private final boolean[] joinsBoth = new boolean[MOST_OPEN + 1];
+        private final boolean[] joinsEither = new boolean[MOST_OPEN + 1];
+        private int open = 0;
+        private boolean awaitsTest = true;
 
         void parse(Text text) {
             length = 0;
             faultKind = 0;
             faultAt = NONE;
+            awaitsTest = true;
+            begin(0);
             text.rewind();
-            parseRule(text, 0);
-            if (text.token != Text.END) {
+            for (int k = 0; k < Text.ROOM_FOR_BYTES && text.token != Text.END && faultKind == 0; k++) {
+                if (awaitsTest) {
+                    takeTest(text);
+                } else {
+                    takeJoint(text);
+                }
+            }
+            if (awaitsTest || open > 0) {
                 blame(MISPLACED, text);
             }
+            end();
         }
 
-        /** Only the first fault counts; behind it the text is not gone on with. */
-        void blame(int kind, Text text) {
+        /** Only the first fault counts: behind it the text is not gone on with. */
+        private void blame(int kind, Text text) {
             if (faultKind == 0) {
                 faultKind = kind;
                 faultAt = text.start;
             }
         }
 
-        void parseRule(Text text, int open) {
-            parsePart(text, open);
-            for (int k = 0; k < Text.ROOM_FOR_BYTES && faultKind == 0 && text.isWord("or"); k++) {
-                text.advance();
-                parsePart(text, open);
+        private void begin(int level) {
+            open = level;
+            inverts[level] = false;
+            joinsBoth[level] = false;
+            joinsEither[level] = false;
+        }
+
+        private void end() {
+            if (joinsEither[open]) {
                 put(EITHER, 0, 0);
             }
         }
 
-        void parsePart(Text text, int open) {
-            parseOne(text, open);
-            for (int k = 0; k < Text.ROOM_FOR_BYTES && faultKind == 0 && text.isWord("and"); k++) {
+        private void takeTest(Text text) {
+            if (text.isWord("not")) {
                 text.advance();
-                parseOne(text, open);
-                put(BOTH, 0, 0);
-            }
-        }
-
-        void parseOne(Text text, int open) {
-            boolean inverted = false;
-            for (int k = 0; k < Text.ROOM_FOR_BYTES && text.isWord("not"); k++) {
-                text.advance();
-                inverted = !inverted;
-            }
-            if (text.isSign('(')) {
-                parseBracket(text, open);
+                inverts[open] = !inverts[open];
+            } else if (text.isSign('(')) {
+                takeOpening(text);
             } else {
-                parseTest(text);
-            }
-            if (inverted) {
-                put(INVERT, 0, 0);
+                takeWord(text);
+                endTest();
             }
         }
 
-        void parseBracket(Text text, int open) {
+        private void takeOpening(Text text) {
             if (open >= MOST_OPEN) {
                 blame(TOO_DEEP, text);
                 return;
             }
             text.advance();
-            parseRule(text, open + 1);
-            if (text.isSign(')')) {
-                text.advance();
-            } else {
-                blame(MISPLACED, text);
-            }
+            begin(open + 1);
         }
 
-        void parseTest(Text text) {
+        private void takeWord(Text text) {
             if (text.isWord("sum")) {
-                parseSum(text);
+                takeSum(text);
             } else if (text.isWord("pins")) {
-                parseNumbered(text, PINS, MOST_PLACES);
+                takeNumbered(text, PINS, MOST_PLACES);
             } else if (text.isWord("has")) {
-                parseNumbered(text, HAS, MOST_PLACES - 1);
+                takeNumbered(text, HAS, MOST_PLACES - 1);
             } else if (text.isWord("runs")) {
-                parseNumbered(text, RUNS, MOST_PLACES);
+                takeNumbered(text, RUNS, MOST_PLACES);
             } else if (text.isWord("in")) {
-                parseNumbered(text, IN, LISTS - 1);
+                takeNumbered(text, IN, LISTS - 1);
             } else if (text.isWord("turns")) {
                 text.advance();
                 put(TURNS, 0, 0);
@@ -1008,24 +1010,55 @@ public final class PodMarks {
             }
         }
 
-        void parseNumbered(Text text, int step, int greatest) {
-            text.advance();
-            put(step, parseNumber(text, 0, greatest), 0);
+        private void endTest() {
+            if (inverts[open]) {
+                put(INVERT, 0, 0);
+                inverts[open] = false;
+            }
+            if (joinsBoth[open]) {
+                put(BOTH, 0, 0);
+                joinsBoth[open] = false;
+            }
+            awaitsTest = false;
         }
 
-        void parseSum(Text text) {
-            text.advance();
-            int left = parseNumber(text, 0, MOST_LEFT);
-            if (faultKind == 0 && !text.isWord("of")) {
+        private void takeJoint(Text text) {
+            if (text.isWord("and")) {
+                text.advance();
+                joinsBoth[open] = true;
+                awaitsTest = true;
+            } else if (text.isWord("or")) {
+                text.advance();
+                end();
+                joinsEither[open] = true;
+                awaitsTest = true;
+            } else if (open > 0 && text.isSign(')')) {
+                text.advance();
+                end();
+                open--;
+                endTest();
+            } else {
                 blame(MISPLACED, text);
             }
-            if (faultKind == 0) {
-                text.advance();
-                put(SUM, left, parseNumber(text, 1, MOST_DIVISOR));
-            }
         }
 
-        int parseNumber(Text text, int least, int greatest) {
+        private void takeNumbered(Text text, int step, int greatest) {
+            text.advance();
+            put(step, takeNumber(text, 0, greatest), 0);
+        }
+
+        private void takeSum(Text text) {
+            text.advance();
+            int left = takeNumber(text, 0, MOST_LEFT);
+            if (!text.isWord("of")) {
+                blame(MISPLACED, text);
+                return;
+            }
+            text.advance();
+            put(SUM, left, takeNumber(text, 1, MOST_DIVISOR));
+        }
+
+        private int takeNumber(Text text, int least, int greatest) {
             if (text.token != Text.NUMBER) {
                 blame(MISPLACED, text);
                 return least;
@@ -1039,7 +1072,7 @@ public final class PodMarks {
             return v;
         }
 
-        void put(int step, int number, int divisor) {
+        private void put(int step, int number, int divisor) {
             if (length < steps.length) {
                 steps[length] = step;
                 numbers[length] = number;
@@ -1065,7 +1098,7 @@ public final class PodMarks {
             return (waiting & 1L) != 0L;
         }
 
-        boolean passes(int i, int m, Island isle, MarkList[] lists) {
+        private boolean passes(int i, int m, Island isle, MarkList[] lists) {
             int v = numbers[i];
             switch (steps[i]) {
                 case PINS:
@@ -1083,7 +1116,7 @@ public final class PodMarks {
             }
         }
 
-        static int sumOf(int m) {
+        private static int sumOf(int m) {
             int sum = 0;
             for (int p = 0; p < MOST_PLACES; p++) {
                 sum += ((m >> p) & 1) * (p + 1);
@@ -1098,11 +1131,11 @@ public final class PodMarks {
         static final int MARKS = 1 << MOST_PINS;
 
         final int[] row = new int[MARKS];
-        final long[] apart = new long[MARKS];
-        final int[] best = new int[MARKS + 1];
+        private final long[] apart = new long[MARKS];
+        private final int[] best = new int[MARKS + 1];
         int size = 0;
-        int soughtPins = NONE;
-        boolean sought = false;
+        private int soughtPins = NONE;
+        private boolean sought = false;
 
         void forget() {
             sought = false;
@@ -1128,7 +1161,7 @@ public final class PodMarks {
             canPick(those, size, 0, 0);
         }
 
-        static long marksWith(int many, int w) {
+        private static long marksWith(int many, int w) {
             long those = 0L;
             for (int m = 0; m < many; m++) {
                 if (w == NONE || Integer.bitCount(m) == w) {
@@ -1138,7 +1171,7 @@ public final class PodMarks {
             return those;
         }
 
-        static long apartAbove(Island isle, int m, long those, int many) {
+        private static long apartAbove(Island isle, int m, long those, int many) {
             int back = isle.reversed(m);
             long apart = 0L;
             for (int k = m + 1; k < many; k++) {
@@ -1150,7 +1183,7 @@ public final class PodMarks {
         }
 
         /** Marks are tried rising, so the first row that is found is the first of all; best[m] is the most from m on. */
-        boolean canPick(long open, int need, int from, int depth) {
+        private boolean canPick(long open, int need, int from, int depth) {
             if (need <= 0) {
                 return true;
             }
@@ -1172,18 +1205,18 @@ public final class PodMarks {
         }
 
         /** A mark alike to one later mark at most could take that one's place in any row: if m fails, so do all. */
-        boolean canStandForAny(int m, long open) {
+        private boolean canStandForAny(int m, long open) {
             return Long.bitCount((open & ~apart[m]) >>> (m + 1)) <= 1;
         }
     }
 
     /** Sets of one to three numbered parts that together are just a target; no part goes beyond it. */
     private static final class Covers {
-        final int[] parts = new int[ROOM];
-        final int[] numbers = new int[ROOM];
-        final int[] first = new int[MOST_RING];
-        int size = 0;
-        int target = 0;
+        private final int[] parts = new int[ROOM];
+        private final int[] numbers = new int[ROOM];
+        private final int[] first = new int[MOST_RING];
+        private int size = 0;
+        private int target = 0;
         int found = 0;
         int fewest = NONE;
         long common = 0L;
@@ -1218,7 +1251,7 @@ public final class PodMarks {
             }
         }
 
-        void searchPairs() {
+        private void searchPairs() {
             for (int i = 0; i < size; i++) {
                 for (int j = i + 1; j < size; j++) {
                     if ((parts[i] | parts[j]) == target) {
@@ -1228,7 +1261,7 @@ public final class PodMarks {
             }
         }
 
-        void searchTriples() {
+        private void searchTriples() {
             for (int i = 0; i < size; i++) {
                 for (int j = i + 1; j < size; j++) {
                     int two = parts[i] | parts[j];
@@ -1242,7 +1275,7 @@ public final class PodMarks {
         }
 
         /** Smaller sets are searched first, and rows rising: so the first that is told is the fewest. */
-        void tally(int many, int i, int j, int k) {
+        private void tally(int many, int i, int j, int k) {
             found++;
             common &= (1L << numbers[i]) | (1L << numbers[j]) | (1L << numbers[k]);
             if (fewest == NONE) {
@@ -1270,7 +1303,12 @@ public final class PodMarks {
             return NONE;
         }
 
-        boolean canReach(int from, int have, int left) {
+        /** Whether there is one at all; it ends at the first. */
+        boolean canCover(int h) {
+            return canReach(0, 0, h);
+        }
+
+        private boolean canReach(int from, int have, int left) {
             for (int i = from; i < size && left > 0; i++) {
                 int now = have | parts[i];
                 if (now == target || canReach(i + 1, now, left - 1)) {

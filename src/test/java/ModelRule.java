@@ -1,161 +1,131 @@
-import java.util.ArrayDeque;
 import java.util.BitSet;
-import java.util.Deque;
 import java.util.function.IntPredicate;
 
-/** A rule read by two states (a test is awaited, a joint is awaited) over stacks, not by descent as the program does. */
+/** A rule read by descent to sets of marks, not over levels of brackets to steps as the program does. */
 final class ModelRule {
     int fault = 0;
     int faultAt = Model.NONE;
 
     private final String s;
     private final Model model;
-    private int at = 0;
-    private final Deque<BitSet> values = new ArrayDeque<>();
-    private final Deque<String> joints = new ArrayDeque<>();
+    private int start = 0;
+    private String token = "";
+    private int open = 0;
 
     ModelRule(String s, Model model) {
         this.s = s;
         this.model = model;
     }
 
+    /** A fault ends the descent at once. */
+    private static final class Fault extends RuntimeException {
+        private static final long serialVersionUID = 1L;
+        final int kind;
+
+        Fault(int kind) {
+            this.kind = kind;
+        }
+    }
+
+    /** All marks that are so; null: there is a fault. */
     BitSet marks() {
-        boolean awaitsTest = true;
-        int open = 0;
-        while (fault == 0) {
-            skip();
-            int start = at;
-            String token = token();
-            if (awaitsTest) {
-                if (token.equals("not")) {
-                    joints.push("not");
-                } else if (token.equals("(")) {
-                    if (open == 4) return failed(3, start);
-                    open++;
-                    joints.push("(");
-                } else {
-                    test(token, start);
-                    awaitsTest = false;
-                }
-            } else if (token.equals("and") || token.equals("or")) {
-                settle(token.equals("and") ? "not and" : "not and or");
-                joints.push(token);
-                awaitsTest = true;
-            } else if (token.equals(")") && open > 0) {
-                settle("not and or");
-                joints.pop();
-                open--;
-            } else if (token.isEmpty() && open == 0) {
-                settle("not and or");
-                return values.pop();
-            } else {
-                return failed(1, start);
-            }
-        }
-        return null;
-    }
-
-    private BitSet failed(int kind, int where) {
-        if (fault == 0) {
-            fault = kind;
-            faultAt = where;
-        }
-        return null;
-    }
-
-    private void settle(String which) {
-        while (!joints.isEmpty() && !joints.peek().equals("(") && which.contains(joints.peek())) {
-            String joint = joints.pop();
-            BitSet last = (BitSet) values.pop().clone();
-            if (joint.equals("not")) {
-                last.flip(0, 1 << model.n);
-            } else if (joint.equals("and")) {
-                last.and(values.pop());
-            } else {
-                last.or(values.pop());
-            }
-            values.push(last);
+        try {
+            next(0);
+            BitSet all = rule();
+            if (!token.isEmpty()) throw new Fault(1);
+            return all;
+        } catch (Fault f) {
+            fault = f.kind;
+            faultAt = start;
+            return null;
         }
     }
 
-    private void skip() {
-        while (at < s.length() && s.charAt(at) == ' ') at++;
-    }
-
-    private String token() {
-        if (at == s.length()) return "";
-        int start = at++;
+    private void next(int from) {
+        start = from;
+        while (start < s.length() && s.charAt(start) == ' ') start++;
+        int end = Math.min(start + 1, s.length());
         for (String signs : new String[] {"abcdefghijklmnopqrstuvwxyz", "0123456789"}) {
-            if (signs.indexOf(s.charAt(start)) >= 0) {
-                while (at < s.length() && signs.indexOf(s.charAt(at)) >= 0) at++;
+            if (start < s.length() && signs.indexOf(s.charAt(start)) >= 0) {
+                while (end < s.length() && signs.indexOf(s.charAt(end)) >= 0) end++;
             }
         }
-        return s.substring(start, at);
+        token = s.substring(start, end);
     }
 
-    private int number(int least, int greatest) {
-        skip();
-        int start = at;
-        String token = token();
-        if (token.isEmpty() || token.charAt(0) < '0' || token.charAt(0) > '9') {
-            failed(1, start);
-            return least;
-        }
-        if (token.length() > 2 || Integer.parseInt(token) < least || Integer.parseInt(token) > greatest) {
-            failed(2, start);
-            return least;
-        }
-        return Integer.parseInt(token);
+    private boolean comes(String what) {
+        if (!token.equals(what)) return false;
+        next(start + token.length());
+        return true;
     }
 
-    private void test(String word, int start) {
-        switch (word) {
-            case "pins": {
-                int w = number(0, 12);
-                all(m -> Integer.bitCount(m) == w);
-                break;
-            }
-            case "has": {
-                int p = number(0, 11);
-                all(m -> (m >> p & 1) == 1);
-                break;
-            }
-            case "runs": {
-                int w = number(0, 12);
-                all(m -> runs(m) == w);
-                break;
-            }
-            case "turns":
-                all(m -> model.back(m) == m);
-                break;
-            case "in": {
-                int l = number(0, 5);
-                all(m -> model.lists.get(l).contains(m));
-                break;
-            }
-            case "sum":
-                sum();
-                break;
-            default:
-                failed(1, start);
-        }
+    private BitSet rule() {
+        BitSet all = part();
+        while (comes("or")) all.or(part());
+        return all;
     }
 
-    private void sum() {
+    private BitSet part() {
+        BitSet all = one();
+        while (comes("and")) all.and(one());
+        return all;
+    }
+
+    private BitSet one() {
+        if (comes("not")) {
+            BitSet others = one();
+            others.flip(0, 1 << model.n);
+            return others;
+        }
+        if (token.equals("(")) return bracket();
+        if (comes("turns")) return all(m -> model.back(m) == m);
+        if (comes("sum")) return sum();
+        if (comes("pins")) {
+            int w = number(0, 12);
+            return all(m -> Integer.bitCount(m) == w);
+        }
+        if (comes("has")) {
+            int p = number(0, 11);
+            return all(m -> (m >> p & 1) == 1);
+        }
+        if (comes("runs")) {
+            int w = number(0, 12);
+            return all(m -> runs(m) == w);
+        }
+        if (comes("in")) {
+            int l = number(0, 5);
+            return all(m -> model.lists.get(l).contains(m));
+        }
+        throw new Fault(1);
+    }
+
+    private BitSet bracket() {
+        if (open == 4) throw new Fault(3);
+        open++;
+        comes("(");
+        BitSet all = rule();
+        if (!comes(")")) throw new Fault(1);
+        open--;
+        return all;
+    }
+
+    private BitSet sum() {
         int left = number(0, 98);
-        if (fault != 0) return;
-        skip();
-        int start = at;
-        if (!token().equals("of")) {
-            failed(1, start);
-            return;
-        }
+        if (!comes("of")) throw new Fault(1);
         int by = number(1, 99);
-        all(m -> {
+        return all(m -> {
             int sum = 0;
             for (int p = 0; p < 12; p++) sum += (m >> p & 1) == 1 ? p + 1 : 0;
             return sum % by == left;
         });
+    }
+
+    private int number(int least, int greatest) {
+        if (token.isEmpty() || token.charAt(0) < '0' || token.charAt(0) > '9') throw new Fault(1);
+        if (token.length() > 2 || Integer.parseInt(token) < least || Integer.parseInt(token) > greatest) throw new Fault(2);
+        int v = Integer.parseInt(token);
+        next(start + token.length());
+        return v;
     }
 
     private static int runs(int m) {
@@ -169,11 +139,11 @@ final class ModelRule {
         return many;
     }
 
-    private void all(IntPredicate test) {
+    private BitSet all(IntPredicate test) {
         BitSet those = new BitSet();
         for (int m = 0; m < 1 << model.n; m++) {
             if (test.test(m)) those.set(m);
         }
-        values.push(those);
+        return those;
     }
 }

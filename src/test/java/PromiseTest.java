@@ -621,6 +621,14 @@ public final class PromiseTest {
         faulty("not)", 1, 3);
         faulty("Turns", 1, 0);
         faulty("turnS", 1, 0);
+        faulty("turnsa", 1, 0);
+        faulty("turnsz", 1, 0);
+        faulty("turns{", 1, 5);
+        faulty("turns`", 1, 5);
+        faulty("turns/", 1, 5);
+        faulty("turns:", 1, 5);
+        faulty("pins 1/", 1, 6);
+        faulty("pins 1:", 1, 6);
         faulty("turns\t", 1, 5);
         faulty("turns\u00e9", 1, 5);
         faulty("\u0000", 1, 0);
