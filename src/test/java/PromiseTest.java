@@ -1,14 +1,5 @@
-import java.nio.charset.StandardCharsets;
-
 /** Each promise by answers worked out by hand: ordinary calls, the edges that the document names, and wrong ones. */
-public final class PromiseTest {
-    private static final int NONE = -1, UNKNOWN = -1001, OUTSIDE = -1002, NOT = -1003, FULL = -1004, LARGE = -1005;
-    private static final int LOW = Integer.MIN_VALUE, HIGH = Integer.MAX_VALUE;
-    private static final int LOSING = 0, BLIND = 1, ADDING = 2, TURNED = 3;
-    private static final int[] NO_LISTS = {-1, 6, LOW, HIGH};
-
-    private final Checks checks = new Checks();
-
+public final class PromiseTest extends Bench {
     public static void main(String[] args) {
         PromiseTest test = new PromiseTest();
         test.island();
@@ -19,39 +10,6 @@ public final class PromiseTest {
         test.heaps();
         test.refusals();
         test.checks.end();
-    }
-
-    private void due(String what, long got, long want) {
-        checks.due(what, got, want);
-    }
-
-    private static PodMarks with(int n, int kind, int t, int a) {
-        PodMarks x = new PodMarks();
-        x.places(n);
-        x.island(kind, t, a);
-        return x;
-    }
-
-    private static void addAll(PodMarks x, int list, int... marks) {
-        for (int m : marks) {
-            x.add(list, m);
-        }
-    }
-
-    private void holds(String what, PodMarks x, int list, int... marks) {
-        due(what + ": how many", x.mark(list, NONE), marks.length);
-        for (int i = 0; i < marks.length; i++) {
-            due(what + ": mark " + i, x.mark(list, i), marks[i]);
-        }
-    }
-
-    private static int feedAll(PodMarks x, String s) {
-        byte[] bytes = s.getBytes(StandardCharsets.ISO_8859_1);
-        int answer = x.count(1);
-        for (int k = 0; k < bytes.length; k++) {
-            answer = x.feed(1, bytes[k] & 255);
-        }
-        return answer;
     }
 
     // ---- the island
