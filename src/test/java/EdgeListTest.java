@@ -364,6 +364,12 @@ public final class EdgeListTest extends Bench {
         isMost(x, NONE, 0, 3);
         x.island(9, 9, 9);
         isMost(x, NONE, 0, 3);
+        x = plain(5);
+        due("32 of five places", x.most(NONE, NONE), 32);
+        x.places(2);
+        isMost(x, NONE, 0, 1, 2, 3);
+        x.places(3);
+        isMost(x, 2, 3, 5, 6);
     }
 
     private void bound() {
@@ -377,6 +383,11 @@ public final class EdgeListTest extends Bench {
         due("ADDING: that of all pins", with(12, ADDING, 0, 4).bound(), 4096);
         due("ADDING: that of no pin", with(12, ADDING, 4, 0).bound(), 4096);
         due("TURNED: those turned the same", with(12, TURNED, 0, 0).bound(), 4096);
+
+        about("BOUND: the least FILLS, where n is odd");
+        due("that of all 11 pins", with(11, ADDING, 0, 4).bound(), 2048);
+        due("that of all 3 pins, turned the same", with(3, TURNED, 0, 1).bound(), 8);
+        due("that of no pin", with(11, TURNED, 4, 0).bound(), 2048);
 
         about("BOUND: t 0: every MARK fills one");
         for (int n = 2; n <= 12; n++) {

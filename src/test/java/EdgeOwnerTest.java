@@ -453,6 +453,11 @@ public final class EdgeOwnerTest extends Bench {
         due("the third", x.inAll(0, 7, 3, 2), 63);
         due("no more", x.inAll(0, 7, 3, 3), NONE);
 
+        about("IN ALL: of RINGS of one MARK: it alone, the first or the last of a LIST");
+        due("number 0", x.inAll(0, 2048, 1, 0), 0);
+        due("number 63", x.inAll(0, 4, 1, 0), 63);
+        due("no other", x.inAll(0, 4, 1, 1), NONE);
+
         about("IN ALL: in each RING to which it is TRACED");
         PodMarks y = plain(3);
         addAll(y, 0, 0b010, 0b001, 0b011, 0b101);
@@ -494,6 +499,12 @@ public final class EdgeOwnerTest extends Bench {
         x.add(0, 5);
         framedBy(x, 0, 0, 0);
         x.add(0, 2);
+        framedBy(x, 0, 0, 0);
+
+        about("FRAMED: whatever was asked before");
+        due("2 is itself a ring", x.trace(0, 2, 1, 0), 1);
+        framedBy(x, 0, 0, 0);
+        due("5 is itself a ring", x.trace(0, 5, 1, 0), 1);
         framedBy(x, 0, 0, 0);
 
         about("FRAMED: that can MAKE it: by two");

@@ -441,6 +441,13 @@ public final class EdgeRuleTest extends Bench {
         reads(2, "has 0 and (has 1 or (pins 1 and not (has 1 or (turns))))", 1, 3);
         reads(2, "not (has 0 and (not (has 1) or (pins 2 and (turns))))", 0, 2);
         reads(2, "pins 2 or not (has 0) and (not has 1 or (pins 9))", 0, 3);
+
+        about("brackets side by side keep nothing of one another");
+        reads(2, "(has 0 or has 1) and (pins 1)", 1, 2);
+        reads(2, "(has 0 and has 1) or (pins 1)", 1, 2, 3);
+        reads(2, "(not has 0) and (has 1)", 2);
+        reads(2, "((has 0 or pins 0) and (has 1 or pins 0)) and (pins 2)", 3);
+        reads(2, "not (has 0 or has 1) or (has 0 and (pins 2))", 0, 3);
     }
 
     // ---- read, fault, count
@@ -487,6 +494,24 @@ public final class EdgeRuleTest extends Bench {
         due("2", readRule(x, 0, "pins 13"), -12);
         due("3", readRule(x, 0, "((((("), -13);
         holds("after", x, 0, 127);
+
+        about("Promise 23: a FAULT leaves nothing to the next text");
+        x = plain(2);
+        for (String broken : new String[] {"((((", "not", "(not", "turns and", "(turns and", "turns or", "(turns or not", "not (turns or", "turns x"}) {
+            due("'" + broken + "'", readRule(x, 0, broken), -11);
+            reads(x, "has 0", 1, 3);
+            due("'" + broken + "'", readRule(x, 0, broken), -11);
+            reads(x, "(has 0)and(not has 1)", 1);
+        }
+
+        about("Promise 23: as many texts as an object has calls");
+        x = plain(2);
+        for (int k = 0; k < 8; k++) {
+            String many = "turns or ".repeat(12);
+            due("'.. or turns', " + k, readRule(x, 5, many + "turns"), 2);
+            due("'.. or has 0', " + k, readRule(x, 5, many + "has 0"), 3);
+        }
+        reads(x, "pins 1", 1, 2);
 
         about("Promise 23: UNKNOWN (THE TEXT stays)");
         x = plain(7);
